@@ -1,5 +1,3 @@
-import java.util.Arrays;
-
 /**
  * Barrel organs whose drums play what a street will do. The promises that this class keeps are in DOC.md.
  *
@@ -59,7 +57,7 @@ public final class OrganDrums {
     private static final int LARGEST_NUMBER = 1000;
     private static final int MOST_TIMES = 20;
     private static final int LARGEST_SUM = 1000000000;
-    private static final int BROKEN = Integer.MIN_VALUE;
+    private static final int BROKEN = -2000000000;
 
     /* A text of 400 bytes with 50 parts comes to some 250 steps. */
     private static final int STEPS = 512;
@@ -419,8 +417,9 @@ public final class OrganDrums {
         if (k < 1 || k > FEWER_MOST || n < 0 || n > SLIPPING_MOST) {
             return NONE;
         }
-        Arrays.fill(chances, 0L);
-        chances[0] = WHOLE_CHANCE;
+        for (int i = 0; i < FEWER_MOST; i++) {
+            chances[i] = i == 0 ? WHOLE_CHANCE : 0;
+        }
         for (int i = 0; i < n; i++) {
             letOneSlip();
         }
@@ -824,7 +823,7 @@ public final class OrganDrums {
         }
     }
 
-    /** A text as it was read: of each clause its kind, how often, and where its sums and its test begin in the steps. */
+    /** A text as it was read: of each clause its kind, how often, where its sums and its test begin in the steps. */
     private static final class Text {
         final int[] kinds;
         final int[] times;
@@ -1221,7 +1220,7 @@ public final class OrganDrums {
             int place = from;
             for (int i = 0; i < steps.length && place >= 0 && place < steps.length; i++) {
                 int step = steps[place] & STEP_MASK;
-                int number = steps[place] >> STEP_BITS;
+                int number = steps[place] >>> STEP_BITS;
                 place++;
                 if (step == END) {
                     break;
@@ -1510,8 +1509,8 @@ public final class OrganDrums {
             hours = street.roundOf(0, DRUMS);
             lowerHours = Math.min(street.roundOf(0, HALF), STRIP);
             upperHours = Math.min(street.roundOf(HALF, DRUMS), STRIP);
-            Arrays.fill(lower, 0, lowerHours, 0);
-            Arrays.fill(upper, 0, upperHours, 0);
+            clear(lower, lowerHours);
+            clear(upper, upperHours);
             for (int d = 0; d < street.drums && d < DRUMS; d++) {
                 if (!street.isStopped(d)) {
                     setCells(street, d, law, withSounds);
@@ -1521,6 +1520,12 @@ public final class OrganDrums {
                         layDrum(street, d, upper, upperHours);
                     }
                 }
+            }
+        }
+
+        private static void clear(int[] row, int length) {
+            for (int i = 0; i < length && i < row.length; i++) {
+                row[i] = 0;
             }
         }
 
@@ -1657,7 +1662,7 @@ public final class OrganDrums {
 
         /** For each beat at how many hours, while a drum would be there without a shift, others strike. */
         private void setMeetings(int at, int length, int others) {
-            Arrays.fill(meetings, 0);
+            clear(meetings, BEATS);
             for (int h = 0; h < hours; h++) {
                 if ((strikersIn(h) & others) != 0 && length > 0 && length <= BEATS && at >= 0) {
                     meetings[(at + h) % length]++;
@@ -1667,7 +1672,9 @@ public final class OrganDrums {
 
         /** The fewest drums that do not strike at once, the lowest as bits; 0 without. */
         int neverTogether(int drums) {
-            Arrays.fill(together, false);
+            for (int set = 0; set < SETS; set++) {
+                together[set] = false;
+            }
             for (int h = 0; h < hours; h++) {
                 together[strikersIn(h)] = true;
             }
