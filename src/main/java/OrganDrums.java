@@ -653,7 +653,6 @@ public final class OrganDrums {
             kinds[drums] = kind;
             beats[drums] = at;
             pins[drums] = bits;
-            stops &= ~(1 << drums);
             drums++;
         }
 

@@ -8,6 +8,7 @@ public final class DaysTest {
         daysUnderLaws();
         drawn();
         imagesKeep();
+        imagesDiffer();
         imagesDoNotKeep();
         imagesKeepLaws();
         count();
@@ -174,6 +175,43 @@ public final class DaysTest {
         DUE.is(40, "of(0, 4)", x.of(0, 4), 1);
         x.back(1);
         DUE.is(40, "of(0, 4)", x.of(0, 4), 0);
+    }
+
+    /** Of two images each has all of its own drums, terms and what was heard. */
+    private static void imagesDiffer() {
+        OrganDrums x = new OrganDrums();
+        x.image(0);
+        x.drum(4, 2, 1, 6);
+        x.drum(5, 1, 2, 9);
+        x.stop(1);
+        x.heard(1, 1);
+        x.heard(2, 0);
+        x.image(1);
+        x.back(0);
+        x.drum(7, 3, 6, 64);
+        x.drum(2, 0, 0, 3);
+        x.stop(0);
+        x.heard(3, 0);
+        x.heard(4, 1);
+        x.image(0);
+        x.back(1);
+        int[][] second = {{4, 2, 1, 6, 0, 1}, {5, 1, 2, 9, 1, 0}};
+        int[][] first = {{7, 3, 6, 64, 1, 0}, {2, 0, 0, 3, 0, 1}};
+        ofDrums(x, second);
+        DUE.is(41, "canBe(): 0 strikes at 1, not at 2", x.canBe(), 1);
+        x.back(0);
+        ofDrums(x, first);
+        DUE.is(41, "canBe(): 1 strikes at both, 0 at none", x.canBe(), 0);
+        x.back(1);
+        ofDrums(x, second);
+    }
+
+    private static void ofDrums(OrganDrums x, int[][] due) {
+        for (int d = 0; d < due.length; d++) {
+            for (int i = 0; i < 6; i++) {
+                DUE.is(41, "of(" + d + ", " + i + ")", x.of(d, i), due[d][i]);
+            }
+        }
     }
 
     private static void imagesDoNotKeep() {

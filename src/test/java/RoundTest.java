@@ -198,6 +198,18 @@ public final class RoundTest {
         DUE.is(27, "most(1, 0)", y.most(1, 0), 2);
         y.shift(0, 1);
         DUE.is(28, "least(0, 0)", y.least(0, 0), 1);
+        OrganDrums z = new OrganDrums();
+        z.drum(12, 0, 0, 1);
+        z.drum(1, 0, 0, 1);
+        z.drum(4, 0, 3, 3);
+        z.stop(1);
+        DUE.is(27, "most(0, 0)", z.most(0, 0), 2);
+        DUE.is(27, "most(0, 1)", z.most(0, 1), 1);
+        DUE.is(28, "least(0, 1)", z.least(0, 1), 0);
+        z.stop(1);
+        DUE.is(28, "least(0, 1)", z.least(0, 1), 1);
+        DUE.is(27, "most(1, 0)", z.most(1, 0), 0);
+        DUE.is(27, "most(1, 1)", z.most(1, 1), 7);
     }
 
     private static void never() {

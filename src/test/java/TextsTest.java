@@ -15,6 +15,7 @@ public final class TextsTest {
         ordersAskWords();
         ordersThatCannotBe();
         ordersAreUndoneWhole();
+        manyTexts();
         faultAndStopped();
         DUE.end();
     }
@@ -153,6 +154,17 @@ public final class TextsTest {
         for (Object[] text : texts) {
             fault(true, (String) text[0], (Integer) text[1]);
         }
+        fault(true, "dropsz", 0);
+        fault(true, "dropsa", 0);
+        fault(true, "drops" + (char) ('a' - 1), 5);
+        fault(true, "drops" + (char) ('z' + 1), 5);
+        fault(true, "sounds 5" + (char) ('0' - 1), 9);
+        fault(true, "sounds 5" + (char) ('9' + 1), 8);
+        fault(true, " ".repeat(395) + "drops", FINE);
+        fault(true, " ".repeat(392) + "sounds 9", FINE);
+        fault(true, " ".repeat(400), 400);
+        fault(true, "drops" + " ".repeat(395), FINE);
+        fault(true, "drops;" + " ".repeat(394), 400);
         fault(true, "sounds 5" + (char) 0, 8);
         fault(true, "sounds 5 " + (char) 233, 9);
     }
@@ -307,6 +319,42 @@ public final class TextsTest {
             DUE.is(11, "of(0, 2)", x.of(0, 2), i % 12);
         }
         DUE.is(11, "undo()", x.undo(), -3);
+        OrganDrums y = new OrganDrums();
+        y.drum(12, 0, 0, 0);
+        y.stop(0);
+        // From here on sixteen changes: hours, pins and stops in turn, five of each and one hour more.
+        for (int i = 0; i < 16; i++) {
+            int told = i % 3 == 0 ? y.pass() : i % 3 == 1 ? y.pin(0, i / 3) : y.stop(0);
+            DUE.is(11, "change " + i, told < 0 ? 1 : 0, 0);
+        }
+        DUE.is(11, "orders()", Due.orders(y, "pin 0 at 11 times 20; pass; stop 0; stop 7"), -3);
+        DUE.is(11, "count(5)", y.count(5), 16);
+        for (int i = 15; i >= 0; i--) {
+            DUE.is(11, "undo()", y.undo(), i % 3 == 0 ? 3 : i % 3 == 1 ? 0 : 2);
+            DUE.is(11, "count(13)", y.count(13), (i + 2) / 3);
+            DUE.is(11, "of(0, 3)", y.of(0, 3), (1 << (i + 1) / 3) - 1);
+            DUE.is(11, "of(0, 4)", y.of(0, 4), 1 - i / 3 % 2);
+        }
+        DUE.is(11, "undo()", y.undo(), -3);
+    }
+
+    /** What one text took in the reader is free for the next. */
+    private static void manyTexts() {
+        OrganDrums x = new OrganDrums();
+        x.drum(12, 0, 0, 0);
+        String sum = "1" + "+1-1".repeat(24);
+        for (int i = 1; i <= 40; i++) {
+            DUE.is(11, "orders()", Due.orders(x, "shift 0 by " + sum), 1);
+            DUE.is(11, "of(0, 2)", x.of(0, 2), i % 12);
+        }
+        for (int i = 0; i < 6; i++) {
+            DUE.is(10, "law()", Due.law(x, "sounds " + i + "+1-1".repeat(24)), i);
+        }
+        x.pin(0, x.of(0, 2));
+        for (int i = 0; i < 6; i++) {
+            x.force(i);
+            DUE.is(10, "loud(0)", x.loud(0), i);
+        }
     }
 
     private static void faultAndStopped() {
