@@ -1,5 +1,13 @@
+import java.util.ArrayList;
+import java.util.List;
+
 /** Counts and tells the answers that are not the ones that are due. */
 final class Due {
+    /** Words of the document that answers are due by, with the promise that they were told of. */
+    record Words(int promise, String text) {
+    }
+
+    private final List<Words> said = new ArrayList<>();
     private int wrong = 0;
     private int asked = 0;
 
@@ -9,6 +17,35 @@ final class Due {
             wrong++;
             System.out.println("promise " + promise + ": " + call + " answered " + got + ", due is " + want);
         }
+    }
+
+    /** From here on answers are due by these words, which the document has for this promise or among its terms. */
+    void says(int promise, String words) {
+        said.add(new Words(promise, words));
+    }
+
+    void is(String call, long got, long want) {
+        Words words = said.get(said.size() - 1);
+        asked++;
+        if (got != want) {
+            wrong++;
+            System.out.println("promise " + words.promise() + ", \"" + words.text() + "\": " + call + " answered " + got
+                    + ", due is " + want);
+        }
+    }
+
+    /** What is not an answer: something that must be so. */
+    void holds(String told, boolean so) {
+        asked++;
+        if (!so) {
+            wrong++;
+            Words words = said.get(said.size() - 1);
+            System.out.println("promise " + words.promise() + ", \"" + words.text() + "\": " + told);
+        }
+    }
+
+    List<Words> allSaid() {
+        return said;
     }
 
     /** Puts a text on the tape, which is empty, and makes a law of it. */
