@@ -448,7 +448,7 @@ public final class OrganDrums {
         paper.become(street);
         int s = seed;
         int together = 0;
-        for (int i = 0; i < n && paper.terms[HOUR] < LAST_HOUR; i++) {
+        for (int i = 0; i < n && paper.drums > 0 && paper.terms[HOUR] < LAST_HOUR; i++) {
             int drawnDrum = draw(s);
             int drawnBeat = draw(drawnDrum);
             s = draw(drawnBeat);

@@ -68,6 +68,15 @@ final class Calls {
         }
     }
 
+    /** The numbers of a call that is written as a row: all from this place on. */
+    static int[] numbers(Object[] row, int from) {
+        int[] numbers = new int[Math.max(0, row.length - from)];
+        for (int i = 0; i < numbers.length; i++) {
+            numbers[i] = (Integer) row[i + from];
+        }
+        return numbers;
+    }
+
     /** The bytes of a text as the numbers that feed() takes, twenty bytes a row, filled up with noughts. */
     static int[][] rows(byte[] bytes) {
         int[][] rows = new int[(bytes.length + 19) / 20][5];

@@ -302,10 +302,7 @@ public final class DaysTest {
             {"pass", 0}, {"heard", -1, 0, 2}, {"heard", 0, 0, 1}, {"days", -1, 0, 0}, {"days", 0, 0, 1},
             {"back", -2, 1}, {"image", 0, 1}, {"image", -1, 2}, {"back", 0, 1}, {"law", -6}, {"orders", -6}};
         for (Object[] call : calls) {
-            int[] numbers = new int[call.length - 2];
-            for (int i = 0; i < numbers.length; i++) {
-                numbers[i] = (Integer) call[i + 2];
-            }
+            int[] numbers = Calls.numbers(call, 2);
             Calls.call(x, (String) call[0], numbers);
             String told = "status() behind " + Calls.told((String) call[0], numbers);
             DUE.is(43, told, x.status(), (Integer) call[1]);

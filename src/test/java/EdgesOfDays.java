@@ -19,6 +19,7 @@ final class EdgesOfDays {
         edges.daysOnPaper();
         edges.drawn();
         edges.image();
+        edges.fullImagesDiffer();
         edges.back();
         edges.imagesKeep();
         edges.imagesDoNotKeep();
@@ -121,7 +122,8 @@ final class EdgesOfDays {
     }
 
     private void daysOfPins() {
-        due.says(38, "at 0 (the last DRAW) there is a PIN at that BEAT of that DRUM, or none, if pin() would not be REFUSED");
+        due.says(38, "at 0 (the last DRAW) there is a PIN at that BEAT of that DRUM, or none, if pin() would not be"
+                + " REFUSED");
         for (int beat = 0; beat < 12; beat++) {
             int seed = seedFor(0, beat);
             for (int length : new int[] {1, beat, beat + 1, 12}) {
@@ -157,23 +159,24 @@ final class EdgesOfDays {
             due.is("drawn(" + d + ", 2)", x.drawn(d, 2), 0);
         }
         x.terms(0, 998);
+        int shift = seedFor(1, -1);
+        due.is("days(" + shift + ", 1) at 998", x.days(shift, 1), 10);
+        due.is("days(" + shift + ", 60) at 998", x.days(shift, 60), 10);
+        x.terms(0, 997);
+        due.is("days(" + shift + ", 1) at 997", x.days(shift, 1), 2);
+        x.terms(0, 998);
         int one = x.days(0, 1);
         due.is("days(0, 60) at 998 is as days(0, 1)", x.days(0, 60), one);
         due.is("days(0, 2) at 998", x.days(0, 2), one);
-        due.is("by the law of hour 998", one % 5, 0);
-        x.terms(0, 939);
-        int all = x.days(3, 60);
-        int[] drawn = {x.drawn(0, 0), x.drawn(0, 2), x.drawn(1, 0), x.drawn(1, 2)};
         x.terms(0, 940);
-        // One day less: the days behind the 59th can't be.
-        x.days(3, 59);
+        // From hour 940 on there are 59 days up to 999: one more can't be.
+        due.is("days(3, 60) at 940 is as days(3, 59)", x.days(3, 60), x.days(3, 59));
         int[] less = {x.drawn(0, 0), x.drawn(0, 2), x.drawn(1, 0), x.drawn(1, 2)};
         x.days(3, 60);
         int[] same = {x.drawn(0, 0), x.drawn(0, 2), x.drawn(1, 0), x.drawn(1, 2)};
         for (int i = 0; i < 4; i++) {
-            due.is("drawn, 60 days from 940 are 59", same[i], less[i]);
+            due.is("drawn behind 60 days from 940", same[i], less[i]);
         }
-        due.holds("60 days from 939 are told apart from 59", !java.util.Arrays.equals(drawn, less) || all > 0);
         due.is("count(13)", x.count(13), 940);
     }
 
@@ -230,11 +233,12 @@ final class EdgesOfDays {
         for (int drum : new int[] {-1, 1, 6, LOW, HIGH}) {
             due.is("drawn(" + drum + ", 0)", x.drawn(drum, 0), -1);
         }
-        due.is("status()", x.status(), -1 + 1);
+        due.is("status() is that of days()", x.status(), 0);
         x.drum(3, 0, 0, 7);
         due.is("drawn(1, 0), it came behind them", x.drawn(1, 0), -1);
         x.days(0, 1);
-        due.says(39, "Behind the latest DAYS of a DRUM PINS as bits (what 0), the BEAT it is AT (1), whether STOPPED (2: 1, 0)");
+        due.says(39, "Behind the latest DAYS of a DRUM PINS as bits (what 0), the BEAT it is AT (1), whether"
+                + " STOPPED (2: 1, 0)");
         due.is("drawn(1, 0)", x.drawn(1, 0), 7);
         OrganDrums y = one(12, 11, 4095);
         y.days(seedFor(2, -1), 1);
@@ -291,6 +295,56 @@ final class EdgesOfDays {
         due.is("of(2, 0)", y.of(2, 0), -1);
     }
 
+    /** Two images, each as full as can be, and of one no drum, law or hour heard is as in the other. */
+    private void fullImagesDiffer() {
+        due.says(40, "IMAGES 0, 1 keep all");
+        OrganDrums x = new OrganDrums();
+        x.image(1);
+        fill(x, 0);
+        x.image(0);
+        x.back(1);
+        fill(x, 1);
+        x.image(1);
+        for (int k = 0; k < 3; k++) {
+            int which = k % 2;
+            due.is("back(" + which + ")", x.back(which), 0);
+            for (int d = 0; d < 6; d++) {
+                due.is("of(" + d + ", 0)", x.of(d, 0), 5 + which + d);
+                due.is("of(" + d + ", 1)", x.of(d, 1), (d + which) % 4);
+                due.is("of(" + d + ", 2)", x.of(d, 2), 3 + which);
+                due.is("of(" + d + ", 3)", x.of(d, 3), 1 << 3 + which);
+                due.is("of(" + d + ", 4)", x.of(d, 4), (d + which) % 2);
+                x.force(d);
+                due.is("asks(0, 0, 0) by law " + d, x.asks(0, 0, 0), d + 3 * which);
+            }
+            due.is("canBe()", x.canBe(), 1 << (which == 0 ? 4 : 5));
+            for (int i = 0; i < 3; i++) {
+                due.is("count(" + (13 + i) + ")", x.count(13 + i), 5 + i - which);
+            }
+        }
+    }
+
+    private static void fill(OrganDrums x, int which) {
+        for (int d = 0; d < 6; d++) {
+            x.drum(5 + which + d, (d + which) % 4, 3 + which, 1 << 3 + which);
+            Due.law(x, "sounds " + (d + 3 * which));
+        }
+        for (int i = 0; i < 3; i++) {
+            x.terms(i, 5 + i - which);
+        }
+        for (int d = 0; d < 6; d++) {
+            if ((d + which) % 2 == 1) {
+                x.stop(d);
+            }
+        }
+        // Of those that are not stopped each strikes first where it is now, and next a whole turn on.
+        int last = which == 0 ? 4 : 5;
+        for (int i = 1; i <= 5; i++) {
+            x.heard(i, 0);
+        }
+        x.heard(5 + which + last, 1);
+    }
+
     private void back() {
         due.says(41, "-1;");
         for (int k : new int[] {-1, 2, LOW, HIGH}) {
@@ -322,7 +376,7 @@ final class EdgesOfDays {
         }
     }
 
-    /** An image is kept of each of three states; whatever comes behind it, all is as it was then. */
+    /** Whatever comes behind an image, all is as it was then. */
     private void imagesKeep() {
         due.says(41, "BACK to one all that it keeps is as it was then (IMAGES stay)");
         for (int k = 0; k < 2; k++) {
@@ -366,7 +420,8 @@ final class EdgesOfDays {
     }
 
     private void imagesDoNotKeep() {
-        due.says(41, "keep all but the TAPE, FAULT, SLEEVES, where ORDERS stopped, what can be undone (nothing, behind back()), the"
+        due.says(41, "keep all but the TAPE, FAULT, SLEEVES, where ORDERS stopped, what can be undone (nothing,"
+                + " behind back()), the"
                 + " latest DAYS");
         OrganDrums x = Ways.busy();
         x.image(1);
@@ -424,7 +479,8 @@ final class EdgesOfDays {
             due.is("count(" + what + ")", Ways.full().count(what), -1);
             Twins.leaves(due, Ways::full, "count", what);
         }
-        due.says(42, "0 DRUMS, 1 how many STRIKE now, 2 PINS in all, 3 HEARD, 4 LAWS, 5 how many can be undone, 6 bytes of the TAPE");
+        due.says(42, "0 DRUMS, 1 how many STRIKE now, 2 PINS in all, 3 HEARD, 4 LAWS, 5 how many can be undone, 6"
+                + " bytes of the TAPE");
         OrganDrums x = Ways.full();
         int[] full = {6, 5, 57, 6, 6, 16, 400, 0, 0, 0, 0, 0, 5, 999, 10, 9};
         for (int what = 0; what < full.length; what++) {
@@ -465,10 +521,7 @@ final class EdgesOfDays {
             {"often", -1}, {"alone", 9}, {"loudest", 9}, {"quiet", 9}, {"most", 9, 9}, {"least", 9, 9}, {"never", 9},
             {"add", 0, 0}, {"listen", 9}, {"few", 0, 0}, {"compare", 9}, {"drawn", 9, 9}, {"count", 16}};
         for (Object[] call : none) {
-            int[] numbers = new int[call.length - 1];
-            for (int i = 0; i < numbers.length; i++) {
-                numbers[i] = (Integer) call[i + 1];
-            }
+            int[] numbers = Calls.numbers(call, 1);
             OrganDrums w = Ways.full();
             String told = Calls.told((String) call[0], numbers);
             due.is(told, Calls.call(w, (String) call[0], numbers), -1);
@@ -488,16 +541,14 @@ final class EdgesOfDays {
         x.forget();
         x.when(99);
         due.is("status()", x.status(), 0);
-        due.says(43, "What the latest call of drum, terms, row, law, orders, force, pin, shift, stop, pass, undo, heard, days, image,"
+        due.says(43, "What the latest call of drum, terms, row, law, orders, force, pin, shift, stop, pass, undo,"
+                + " heard, days, image,"
                 + " back was REFUSED by");
         // Each of these once with a refusal ahead of it, which it must make forgotten.
         Object[][] fine = {{"drum", 1, 0, 0, 0}, {"terms", 0, 0}, {"row"}, {"force", -1}, {"pin", 0, 0}, {"shift", 0, 1},
             {"stop", 0}, {"pass"}, {"undo"}, {"heard", 0, 0}, {"days", 0, 1}, {"image", 0}, {"back", 0}};
         for (Object[] call : fine) {
-            int[] numbers = new int[call.length - 1];
-            for (int i = 0; i < numbers.length; i++) {
-                numbers[i] = (Integer) call[i + 1];
-            }
+            int[] numbers = Calls.numbers(call, 1);
             OrganDrums y = Ways.busy();
             y.stop(9);
             due.is("status()", y.status(), -2);
@@ -548,12 +599,14 @@ final class EdgesOfDays {
             z.pass();
         }
         due.is("count(13), the 512th call", z.count(13), 510);
+        // "shift 0 by 1+1+1-2;x": the last byte is cut off.
         OrganDrums w = new OrganDrums();
         w.drum(12, 0, 0, 0);
-        for (int i = 0; i < 255; i++) {
-            w.feed(0x70617373, 0x2074696d, 0x65732033, 0x20202020, 0x20202020);
-            due.is("orders() " + i, w.orders(), 3);
+        for (int i = 0; i < 170; i++) {
+            w.feed(0x73686966, 0x74203020, 0x62792031, 0x2b312b31, 0x2d323b78);
+            w.end(18);
+            due.is("orders() " + i, w.orders(), 1);
         }
-        due.is("of(0, 2), the 512th call", w.of(0, 2), 765 % 12);
+        due.is("of(0, 2), the 512th call", w.of(0, 2), 170 % 12);
     }
 }

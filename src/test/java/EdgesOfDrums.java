@@ -61,10 +61,7 @@ final class EdgesOfDrums {
         Object[][] refused = {{-6, "row"}, {-6, "law"}, {-6, "orders"}, {-3, "undo"}, {-2, "force", 0}, {-2, "pin", 0, 0},
             {-2, "shift", 0, 1}, {-2, "stop", 0}, {-3, "days", 0, 1}, {-2, "back", 0}, {-2, "back", 1}};
         for (Object[] call : refused) {
-            int[] numbers = new int[call.length - 2];
-            for (int i = 0; i < numbers.length; i++) {
-                numbers[i] = (Integer) call[i + 2];
-            }
+            int[] numbers = Calls.numbers(call, 2);
             Twins.refused(due, Ways::empty, (Integer) call[0], (String) call[1], numbers);
         }
         due.is("pass()", x.pass(), 0);
@@ -185,7 +182,8 @@ final class EdgesOfDrums {
             due.is(Calls.told("of", a), Ways.busy().of(a[0], a[1]), -1);
             Twins.leaves(due, Ways::busy, "of", a);
         }
-        due.says(3, "Of a DRUM LONG (what 0), KIND (1), the BEAT it is AT (2), PINS as bits (3), whether STOPPED (4: 1, 0)");
+        due.says(3, "Of a DRUM LONG (what 0), KIND (1), the BEAT it is AT (2), PINS as bits (3), whether STOPPED"
+                + " (4: 1, 0)");
         int[][] all = {{4, 1, 1, 4, 0, 0}, {3, 2, 1, 3, 1, 0}, {12, 3, 11, 2065, 1, 0}};
         OrganDrums x = Ways.busy();
         for (int d = 0; d < all.length; d++) {
@@ -258,7 +256,8 @@ final class EdgesOfDrums {
     }
 
     private void sounds() {
-        due.says(4, "A PIN there SOUNDS by 0 .. 9 as the last \"sounds\" that HOLDS tells (else the nearest), by 1 without");
+        due.says(4, "A PIN there SOUNDS by 0 .. 9 as the last \"sounds\" that HOLDS tells (else the nearest), by 1"
+                + " without");
         asked("sounds 0", 0, 0);
         asked("sounds 9", 0, 9);
         asked("sounds 10", 0, 9);
@@ -426,7 +425,8 @@ final class EdgesOfDrums {
     }
 
     private void barred() {
-        due.says(15, "To PIN at a BEAT: there is a PIN, if there was none and it is not BARRED, else none (a PIN that is there"
+        due.says(15, "To PIN at a BEAT: there is a PIN, if there was none and it is not BARRED, else none (a PIN"
+                + " that is there"
                 + " can always be drawn)");
         OrganDrums x = new OrganDrums();
         x.drum(12, 0, 0, 4095);
@@ -669,10 +669,7 @@ final class EdgesOfDrums {
         Object[][] calls = {{"drum", 1, 0, 0, 0}, {"terms", 0, 4}, {"terms", 2, 7}, {"row"}, {"back", 0}};
         for (Object[] call : calls) {
             OrganDrums x = Ways.busy();
-            int[] numbers = new int[call.length - 1];
-            for (int i = 0; i < numbers.length; i++) {
-                numbers[i] = (Integer) call[i + 1];
-            }
+            int[] numbers = Calls.numbers(call, 1);
             String told = Calls.told((String) call[0], numbers);
             due.is(told + " is refused", Calls.call(x, (String) call[0], numbers) < 0 ? 1 : 0, 0);
             due.is("count(5) behind " + told, x.count(5), 0);
@@ -696,10 +693,7 @@ final class EdgesOfDrums {
             {"feed", 1, 2, 3, 4, 5}, {"end", 0}};
         for (Object[] call : calls) {
             OrganDrums x = Ways.busy();
-            int[] numbers = new int[call.length - 1];
-            for (int i = 0; i < numbers.length; i++) {
-                numbers[i] = (Integer) call[i + 1];
-            }
+            int[] numbers = Calls.numbers(call, 1);
             String told = Calls.told((String) call[0], numbers);
             Calls.call(x, (String) call[0], numbers);
             due.is("count(5) behind " + told, x.count(5), 5);

@@ -140,7 +140,8 @@ final class EdgesOfHeard {
     }
 
     private void listen() {
-        due.says(35, "To LISTEN: the HOUR 0 .. 99 on at which of these the more of those that STRIKE and those that do not are as"
+        due.says(35, "To LISTEN: the HOUR 0 .. 99 on at which of these the more of those that STRIKE and those that"
+                + " do not are as"
                 + " few as can be");
         listen(drums(1, 0, 1), 0, 1);
         listen(drums(1, 0, 0), 0, 1);
@@ -149,6 +150,10 @@ final class EdgesOfHeard {
         listen(drums(1, 0, 1, 1, 0, 0), 0, 1);
         listen(drums(12, 0, 2048, 1, 0, 0), 11, 1);
         listen(drums(12, 0, 2048, 12, 0, 2048), 0, 2);
+        listen(drums(1, 0, 1, 1, 0, 1, 1, 0, 1, 1, 0, 1, 1, 0, 1, 1, 0, 1), 0, 6);
+        listen(drums(1, 0, 0, 1, 0, 0, 1, 0, 0, 1, 0, 0, 1, 0, 0, 1, 0, 0), 0, 6);
+        listen(drums(1, 0, 0, 1, 0, 0, 1, 0, 0, 1, 0, 0, 1, 0, 0, 4, 0, 8), 3, 5);
+        listen(drums(1, 0, 1, 1, 0, 1, 1, 0, 1, 1, 0, 1, 1, 0, 1, 4, 0, 7), 3, 5);
         listen(drums(12, 0, 2048, 12, 0, 2048, 12, 0, 2048, 1, 0, 0, 1, 0, 0, 1, 0, 0), 11, 3);
         listen(drums(6, 0, 1, 6, 0, 3, 6, 0, 7, 6, 0, 15, 6, 0, 31, 6, 0, 63), 3, 3);
         listen(drums(6, 0, 63, 6, 0, 62, 6, 0, 60, 6, 0, 56, 6, 0, 48, 6, 0, 32), 2, 3);
@@ -162,6 +167,13 @@ final class EdgesOfHeard {
         x.heard(0, 1);
         due.says(35, "at which of these the more");
         listen(x, 0, 1);
+        // Those that can't be are not counted: of the first two one strikes an hour on; of all four two do now.
+        OrganDrums y = drums(6, 0, 1, 6, 0, 3, 6, 0, 2, 6, 0, 2);
+        listen(y, 0, 2);
+        y.heard(0, 1);
+        listen(y, 1, 1);
+        y.heard(1, 1);
+        listen(y, 0, 1);
         x.heard(1, 1);
         due.says(35, "NONE (it can be none)");
         listen(x, -1, -1);
@@ -238,7 +250,8 @@ final class EdgesOfHeard {
     }
 
     private void fewAreCut() {
-        due.says(36, "pin by pin, by how many did, each part times the rest by ten and times SLIPS by ten (one more), both cut");
+        due.says(36, "pin by pin, by how many did, each part times the rest by ten and times SLIPS by ten (one"
+                + " more), both cut");
         OrganDrums x = new OrganDrums();
         due.is("few(1, 12), nothing to cut yet", x.few(1, 12), 282_429_536_481L);
         due.is("few(1, 13), cut once", x.few(1, 13), 254_186_582_832L);
@@ -258,7 +271,8 @@ final class EdgesOfHeard {
     }
 
     private void compare() {
-        due.says(37, "COMPARED: how LOUD the HOURS of a ROUND are together by a LAW in place of that in FORCE (NONE: none)");
+        due.says(37, "COMPARED: how LOUD the HOURS of a ROUND are together by a LAW in place of that in FORCE"
+                + " (NONE: none)");
         OrganDrums x = Ways.full();
         x.stop(0);
         due.is("round()", x.round(), 27720);
@@ -305,10 +319,7 @@ final class EdgesOfHeard {
         Object[][] calls = {{34, "canBe"}, {35, "listen", 0}, {35, "listen", 1}, {35, "listen", 2}, {36, "few", 20, 99},
             {37, "compare", -1}, {37, "compare", 1}, {37, "compare", 6}};
         for (Object[] call : calls) {
-            int[] numbers = new int[call.length - 2];
-            for (int i = 0; i < numbers.length; i++) {
-                numbers[i] = (Integer) call[i + 2];
-            }
+            int[] numbers = Calls.numbers(call, 2);
             due.says((Integer) call[0], "(On paper, n HOURS on");
             Twins.leaves(due, Ways::busy, (String) call[1], numbers);
             Twins.leaves(due, Ways::full, (String) call[1], numbers);

@@ -135,6 +135,35 @@ final class EdgesOfOrders {
         so("2>3", false);
         so("2=2", true);
         so("2=1", false);
+        for (String so : new String[] {"1<2", "2>1", "2=2", "0-2<0-1", "0-1>0-2", "0-1=0-1"}) {
+            so(so, true);
+            so("not " + so, false);
+            so("not not " + so, true);
+            so("not " + so + " and 1=1", false);
+            so("not " + so + " or 1=2", false);
+            so("1=1 and not " + so, false);
+            so(so + " and 1=1", true);
+            so("1=1 and " + so, true);
+            so(so + " or 1=2", true);
+            so("1=2 or " + so, true);
+            so("not (" + so + ")", false);
+            so("(" + so + ")", true);
+        }
+        for (String not : new String[] {"2<1", "2<2", "1>2", "2>2", "1=2", "0-1<0-2", "0-2>0-1", "1=0-1"}) {
+            so(not, false);
+            so("not " + not, true);
+            so("not not " + not, false);
+            so("not " + not + " and 1=2", false);
+            so("not " + not + " or 1=2", true);
+            so("1=1 and not " + not, true);
+            so(not + " and 1=1", false);
+            so("1=1 and " + not, false);
+            so(not + " or 1=1", true);
+            so(not + " or 1=2", false);
+            so("1=1 or " + not, true);
+            so("not (" + not + ")", true);
+            so("(" + not + ")", false);
+        }
         so("not 2=1", true);
         so("not 2=2", false);
         so("not not 2=2", true);

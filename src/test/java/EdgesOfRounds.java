@@ -24,8 +24,11 @@ final class EdgesOfRounds {
         edges.never();
         edges.add();
         edges.addAtBarredBeats();
+        edges.addForEachDrum();
         edges.tune();
         edges.theLongestRound();
+        edges.longRoundsOfThree();
+        edges.eachAskedAlone();
         edges.allLeaveWhatStands();
     }
 
@@ -81,7 +84,8 @@ final class EdgesOfRounds {
     }
 
     private void loudOnPaper() {
-        due.says(20, "(On paper, n HOURS on: no PIN DROPS, DRUMS that are not STOPPED go on, laws are asked as HOUR is now:)");
+        due.says(20, "(On paper, n HOURS on: no PIN DROPS, DRUMS that are not STOPPED go on, laws are asked as HOUR"
+                + " is now:)");
         OrganDrums x = drums(3, 0, 7, 2, 0, 3);
         x.stop(1);
         x.terms(0, 997);
@@ -101,7 +105,8 @@ final class EdgesOfRounds {
     }
 
     private void round() {
-        due.says(21, "A ROUND: the fewest HOURS, 1 at least, behind which all DRUMS that are not STOPPED are AT the BEATS they"
+        due.says(21, "A ROUND: the fewest HOURS, 1 at least, behind which all DRUMS that are not STOPPED are AT the"
+                + " BEATS they"
                 + " are AT now (none: 1)");
         due.is("round()", new OrganDrums().round(), 1);
         for (int length = 1; length <= 12; length++) {
@@ -133,7 +138,8 @@ final class EdgesOfRounds {
     }
 
     private void whenAndOften() {
-        due.says(22, "WHEN a set STRIKES at once: the fewest HOURS on, 0 at least, at which all of it STRIKE (nobody: 0)");
+        due.says(22, "WHEN a set STRIKES at once: the fewest HOURS on, 0 at least, at which all of it STRIKE"
+                + " (nobody: 0)");
         OrganDrums x = drums(4, 1, 1, 6, 2, 2, 1, 0, 1);
         due.is("when(0)", x.when(0), 0);
         due.is("when(1)", x.when(1), 3);
@@ -282,7 +288,8 @@ final class EdgesOfRounds {
         quiet(drums(1, 0, 1), 0, -1);
         quiet(drums(12, 5, 4095), 0, -1);
         quiet(drums(2, 0, 1, 2, 0, 2), 0, -1);
-        due.says(26, "QUIET: the longest row of HOURS, one behind the other, at which none STRIKES, ROUND behind ROUND");
+        due.says(26, "QUIET: the longest row of HOURS, one behind the other, at which none STRIKES, ROUND behind"
+                + " ROUND");
         quiet(drums(6, 0, 1), 5, 1);
         quiet(drums(6, 1, 1), 5, 0);
         quiet(drums(6, 2, 1), 5, 5);
@@ -315,7 +322,8 @@ final class EdgesOfRounds {
     }
 
     private void mostAndLeast() {
-        due.says(27, "MOST: the SHIFT 0 .. LONG less 1 of a DRUM behind which at the most of the HOURS of a ROUND it STRIKES,"
+        due.says(27, "MOST: the SHIFT 0 .. LONG less 1 of a DRUM behind which at the most of the HOURS of a ROUND"
+                + " it STRIKES,"
                 + " and another one at least");
         due.says(28, "LEAST: at the fewest");
         // The other one strikes now alone: only shifted by its last does drum 0 strike then.
@@ -415,7 +423,8 @@ final class EdgesOfRounds {
     }
 
     private void add() {
-        due.says(30, "To ADD for a set 0 .. 63 of one at least: how many PINS (what 0; it STRIKES at once some time: 0), the first"
+        due.says(30, "To ADD for a set 0 .. 63 of one at least: how many PINS (what 0; it STRIKES at once some"
+                + " time: 0), the first"
                 + " HOUR on (1)");
         add(drums(5, 0, 1), 0, -1, -1);
         add(drums(5, 0, 1), 1, 0, 0);
@@ -444,7 +453,8 @@ final class EdgesOfRounds {
     }
 
     private void addAtBarredBeats() {
-        due.says(30, "To ADD: the fewest PINS, each at a BEAT that is not BARRED, by which all of a set STRIKE at once at an HOUR"
+        due.says(30, "To ADD: the fewest PINS, each at a BEAT that is not BARRED, by which all of a set STRIKE at"
+                + " once at an HOUR"
                 + " of a ROUND");
         OrganDrums x = drums(4, 0, 0, 4, 0, 1);
         Due.inForce(x, "bars if drum=0 and beat<3");
@@ -468,8 +478,34 @@ final class EdgesOfRounds {
         add(y, 3, 1, 1);
     }
 
+    private void addForEachDrum() {
+        due.says(30, "each at a BEAT that is not BARRED");
+        for (int d = 0; d < 6; d++) {
+            OrganDrums x = drums(12, 0, 0, 12, 0, 0, 12, 0, 0, 12, 0, 0, 12, 0, 0, 12, 0, 0);
+            Due.inForce(x, "bars if drum=" + d);
+            add(x, 1 << d, -1, -1);
+            add(x, 63, -1, -1);
+            add(x, 63 - (1 << d), 5, 0);
+            Due.inForce(x, "bars if drum=" + d + " and beat<11");
+            add(x, 1 << d, 1, 11);
+            add(x, 63, 6, 11);
+            add(x, 63 - (1 << d), 5, 0);
+            Due.inForce(x, "bars if drum=" + d + " and beat=0");
+            add(x, 1 << d, 1, 1);
+            add(x, 63 - (1 << d), 5, 0);
+            Due.inForce(x, "bars if beat<11 or drum=" + d);
+            add(x, 63 - (1 << d), 5, 11);
+            add(x, 63, -1, -1);
+            Due.inForce(x, "bars if beat=11");
+            x.shift(d, 11);
+            add(x, 1 << d, 1, 1);
+            add(x, 63, 6, 1);
+        }
+    }
+
     private void tune() {
-        due.says(31, "TUNE: the fewest HOURS, 1 at least, by which ROUND can be divided, behind which it is always as LOUD as it"
+        due.says(31, "TUNE: the fewest HOURS, 1 at least, by which ROUND can be divided, behind which it is always"
+                + " as LOUD as it"
                 + " was");
         due.is("tune()", new OrganDrums().tune(), 1);
         int[] pins = {0xfff, 0x555, 0x249, 0x111, 0x041, 0x001, 0x000, 0x0db, 0x7ff, 0x6db, 0xaaa, 0x333};
@@ -531,6 +567,58 @@ final class EdgesOfRounds {
         due.is("most(5, 0)", x.most(5, 0), mostShift());
     }
 
+    /** Of 11, 10 and 9 beats, the first three and the last three of six: all strike at the last of 990 hours alone. */
+    private void longRoundsOfThree() {
+        int[] three = {11, 0, 1 << 10, 10, 0, 1 << 9, 9, 0, 1 << 8};
+        OrganDrums x = drums(three);
+        OrganDrums y = drums(1, 0, 0, 1, 0, 0, 1, 0, 0, 11, 0, 1 << 10, 10, 0, 1 << 9, 9, 0, 1 << 8);
+        due.says(22, "the fewest HOURS on, 0 at least, at which all of it STRIKE");
+        due.is("when(7)", x.when(7), 989);
+        due.is("when(56)", y.when(56), 989);
+        due.says(23, "OFTEN: at how many of the HOURS 0 .. ROUND less 1 on");
+        due.is("often(7)", x.often(7), 1);
+        due.is("often(56)", y.often(56), 1);
+        due.says(25, "LOUDEST: the most it is LOUD at one of these");
+        loudest(x, 3, 989, 1);
+        loudest(y, 3, 989, 1);
+        due.says(31, "TUNE: the fewest HOURS, 1 at least, by which ROUND can be divided");
+        due.is("tune()", x.tune(), 990);
+        due.is("tune()", y.tune(), 990);
+        due.says(37, "how LOUD the HOURS of a ROUND are together");
+        due.is("compare(-1)", x.compare(-1), 90 + 99 + 110);
+        due.is("compare(-1)", y.compare(-1), 90 + 99 + 110);
+    }
+
+    /** Whatever was asked ahead of it, of whatever drums. */
+    private void eachAskedAlone() {
+        Object[][] asked = {{20, "loud", 2, 1}, {21, "round", 12}, {22, "when", 1, 6}, {23, "often", 4, 3}, {24, "alone", 2, 0},
+            {25, "loudest", 2, 0}, {25, "loudest", 0, 1}, {25, "loudest", 6, 2}, {26, "quiet", 1, 0}, {26, "quiet", 11, 1},
+            {27, "most", 1, 2, 0}, {27, "most", 3, 2, 1}, {28, "least", 0, 2, 0}, {28, "least", 2, 2, 1},
+            {29, "never", 2, 0}, {29, "never", 5, 1}, {30, "add", 1, 5, 0}, {30, "add", 0, 5, 1}, {31, "tune", 12},
+            {34, "canBe", 7}, {35, "listen", 0, 0}, {35, "listen", 2, 1}, {37, "compare", 17, -1}};
+        for (Object[] call : asked) {
+            int[] numbers = Calls.numbers(call, 3);
+            due.says((Integer) call[0], "(On paper, n HOURS on");
+            String name = (String) call[1];
+            String told = Calls.told(name, numbers);
+            due.is(told, Calls.call(drums(2, 0, 1, 3, 0, 3, 4, 0, 2), name, numbers), (Integer) call[2]);
+            OrganDrums x = new OrganDrums();
+            x.image(0);
+            x.drum(5, 0, 0, 9);
+            x.drum(6, 0, 1, 0);
+            x.drum(7, 0, 2, 5);
+            x.tune();
+            x.never(0);
+            x.add(7, 0);
+            x.most(2, 0);
+            x.back(0);
+            x.drum(2, 0, 0, 1);
+            x.drum(3, 0, 0, 3);
+            x.drum(4, 0, 0, 2);
+            due.is(told + " behind others", Calls.call(x, name, numbers), (Integer) call[2]);
+        }
+    }
+
     /** The shift by which drum 5 strikes with one of the others most often: counted here hour by hour. */
     private static int mostShift() {
         int[] lengths = {5, 7, 8, 9, 11};
@@ -560,10 +648,7 @@ final class EdgesOfRounds {
             {28, "least", 2, 1}, {28, "least", 0, 2}, {29, "never", 1}, {29, "never", -1}, {30, "add", 1, 0},
             {30, "add", 64, 0}, {31, "tune"}};
         for (Object[] call : calls) {
-            int[] numbers = new int[call.length - 2];
-            for (int i = 0; i < numbers.length; i++) {
-                numbers[i] = (Integer) call[i + 2];
-            }
+            int[] numbers = Calls.numbers(call, 2);
             due.says((Integer) call[0], "(On paper, n HOURS on");
             Twins.leaves(due, Ways::busy, (String) call[1], numbers);
             Twins.leaves(due, Ways::full, (String) call[1], numbers);

@@ -31,6 +31,7 @@ final class EdgesOfTexts {
         edges.clausesOfLaws();
         edges.clausesOfOrders();
         edges.wordsOfOrders();
+        edges.spelling();
         edges.ends();
         edges.fault();
     }
@@ -342,6 +343,15 @@ final class EdgesOfTexts {
             faulty(true, "sounds 5" + (char) other, other == '/' ? 9 : 8);
         }
         faulty(true, "sounds 5/:", 9);
+        for (char letter : new char[] {'a', 'b', 'y', 'z'}) {
+            faulty(true, "drops" + letter, 0);
+            faulty(true, letter + "drops", 0);
+            faulty(true, "drops" + letter + "if 1=1", 0);
+        }
+        for (char digit : new char[] {'0', '1', '8', '9'}) {
+            faulty(true, "sounds 5" + digit, FINE);
+            faulty(true, "drops" + digit, 5);
+        }
         faulty(true, "drops if 1==1", 11);
         faulty(true, "drops if 1<>1", 11);
         faulty(true, "DROPS", 0);
@@ -451,6 +461,13 @@ final class EdgesOfTexts {
         faulty(true, "sounds [[[[[[[[1]+1]]]]]]]", FINE);
         faulty(false, "stop " + "[".repeat(8) + "1" + "]".repeat(8), FINE);
         faulty(false, "stop " + "[".repeat(9) + "1" + "]".repeat(9), 13);
+        String[] sums = {"pin %s at 1", "pin 0 at %s", "shift %s by 1", "shift 0 by %s", "stop %s", "pass if %s=1",
+            "pass if 1=%s", "stop 0;stop %s", "stop [0]+%s", "stop 0 times 2 if %s=1", "pin 0 at [1];stop %s"};
+        for (String text : sums) {
+            int at = text.indexOf('%');
+            faulty(false, text.replace("%s", "[".repeat(8) + "1" + "]".repeat(8)), FINE);
+            faulty(false, text.replace("%s", "[".repeat(9) + "1" + "]".repeat(9)), at + 8);
+        }
         faulty(false, "pass if " + "(".repeat(8) + "1=1" + ")".repeat(8), FINE);
         faulty(false, "pass if " + "(".repeat(9) + "1=1" + ")".repeat(9), 16);
     }
@@ -644,6 +661,38 @@ final class EdgesOfTexts {
         for (String word : new String[] {"drum", "long", "kind", "beat", "mood", "by", "times", "if", "pass", "late"}) {
             faulty(false, "stop " + word, 5);
         }
+    }
+
+    /** A word with one letter changed, too many or too few is none. */
+    private void spelling() {
+        due.says(12, "FAULT: the first TOKEN that can't go on there");
+        String[][] laws = {{"", "sounds", " 1"}, {"", "drops", ""}, {"", "bars", ""}, {"bars ", "if", " 1=1"},
+            {"bars if ", "not", " 1=1"}, {"bars if 1=1 ", "or", " 1=1"}, {"bars if 1=1 ", "and", " 1=1"},
+            {"sounds ", "drum", ""}, {"sounds ", "long", ""}, {"sounds ", "kind", ""}, {"sounds ", "beat", ""},
+            {"sounds ", "pins", ""}, {"sounds ", "hour", ""}, {"sounds ", "mood", ""}};
+        String[][] orders = {{"", "pin", " 0 at 1"}, {"", "shift", " 0 by 1"}, {"", "stop", " 0"}, {"", "pass", ""},
+            {"pin 0 ", "at", " 1"}, {"shift 0 ", "by", " 1"}, {"pass ", "times", " 2"}, {"pass ", "if", " 1=1"},
+            {"stop ", "hour", ""}, {"stop ", "done", ""}, {"stop ", "latest", ""}, {"stop ", "loud", ""},
+            {"stop ", "all", ""}, {"stop ", "at", " 0"}, {"stop ", "pins", " 0"}};
+        for (String[] text : laws) {
+            misspelt(true, text[0], text[1], text[2]);
+        }
+        for (String[] text : orders) {
+            misspelt(false, text[0], text[1], text[2]);
+        }
+    }
+
+    private void misspelt(boolean law, String ahead, String word, String behind) {
+        faulty(law, ahead + word + behind, FINE);
+        for (int i = 0; i < word.length(); i++) {
+            String other = word.substring(0, i) + "q" + word.substring(i + 1);
+            faulty(law, ahead + other + behind, ahead.length());
+        }
+        faulty(law, ahead + word + "q" + behind, ahead.length());
+        faulty(law, ahead + "q" + word + behind, ahead.length());
+        faulty(law, ahead + word.substring(1) + behind, ahead.length());
+        faulty(law, ahead + word.substring(0, word.length() - 1) + behind, ahead.length());
+        faulty(law, ahead + word.toUpperCase() + behind, ahead.length());
     }
 
     private void ends() {
